@@ -267,7 +267,10 @@ public final class FootprintRules {
         }
     }
 
-    /** The keys, with where a family keeps their values, how many, and what these may be. */
+    /**
+     * The keys, with where a family keeps their values, how many, and the least above 0. "0, or
+     * 10,000 at least" is taken to be said of part and via alone: it keeps parts and vias few.
+     */
     private enum Key {
         TOE("toe", 0, 3, 0),
         HEEL("heel", 3, 3, 0),
@@ -283,13 +286,13 @@ public final class FootprintRules {
 
         private final String word;
         private final int first;
-        private final int values;
+        private final int many;
         private final int least;
 
-        Key(String word, int first, int values, int least) {
+        Key(String word, int first, int many, int least) {
             this.word = word;
             this.first = first;
-            this.values = values;
+            this.many = many;
             this.least = least;
         }
 
@@ -436,7 +439,7 @@ public final class FootprintRules {
             if (key == Key.NAME) {
                 return words.next() && readLetters(family);
             }
-            for (int i = 0; i < key.values; i++) {
+            for (int i = 0; i < key.many; i++) {
                 if (!words.next() || !key.takes(words.value())) {
                     return false;
                 }

@@ -160,7 +160,8 @@ public final class ModelTest {
 
         private void addValues(List<String> words, String key) {
             if (key.equals("name")) {
-                words.add("ABCDEFG".substring(0, 1 + random.nextInt(random.nextInt(9) == 0 ? 6 : 4)));
+                int most = random.nextInt(9) == 0 ? 6 : 4;
+                words.add("ABCDEFG".substring(0, 1 + random.nextInt(most)));
                 return;
             }
             int count = "toe heel side court".contains(key) ? 3 : 1;

@@ -378,6 +378,11 @@ public final class PromisesTest {
         duePad(x, 6, 7, 50, 250, 100, 250, 0, 0);
         duePad(x, 7, 8, -150, 250, 100, 250, 0, 0);
         duePad(x, 8, 9, -151, -100, 302, 200, 0, 0);
+        dueCourt(x, -500, -500, 500, 500);
+        x.span(THERMAL_LENGTH, 1, 400);
+        x.span(THERMAL_WIDTH, 2, 299);
+        due("their high ends", x.make(0, 0), 9);
+        duePad(x, 8, 9, -200, -150, 400, 300, 0, 0);
     }
 
     private static void promise6PadsOfBall() {
@@ -388,6 +393,10 @@ public final class PromisesTest {
         duePad(x, 2, 3, 145, 45, 110, 110, 1, 0);
         duePad(x, 3, 4, -255, -155, 110, 110, 1, 0);
         duePad(x, 5, 6, 145, -155, 110, 110, 1, 0);
+        FootprintRules y = made("ball side 10 20 30", 3, 200, 5, 1, 6, 1);
+        y.span(BALL, 50, 80);
+        due("BALL's high end, twice the side", y.make(0, 1), 1);
+        duePad(y, 0, 1, -60, -60, 120, 120, 1, 0);
     }
 
     private static void promise6PadsOfHole() {
@@ -399,6 +408,10 @@ public final class PromisesTest {
         duePad(x, 1, 2, -580, -181, 160, 160, 1, 120);
         duePad(x, 2, 3, 420, -181, 160, 160, 1, 120);
         duePad(x, 3, 4, 420, 21, 160, 160, 1, 120);
+        FootprintRules y = made("hole heel 10 20 30", 0, 1000, 3, 200, 4, 2);
+        y.span(LEAD, 50, 80);
+        due("LEAD's high end, twice the heel", y.make(0, 1), 2);
+        duePad(y, 1, 2, 440, -60, 120, 120, 1, 120);
     }
 
     private static void promise7Name() {
