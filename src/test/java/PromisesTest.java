@@ -1,29 +1,5 @@
 /** One method for each promise of the document, with values worked out by hand. */
-public final class PromisesTest {
-    private static final int NONE = FootprintRules.NONE;
-    private static final int OUTER = 0;
-    private static final int INNER = 1;
-    private static final int LEAD = 2;
-    private static final int PITCH = 3;
-    private static final int COUNT = 4;
-    private static final int ROWS = 5;
-    private static final int COLUMNS = 6;
-    private static final int BALL = 7;
-    private static final int THERMAL_LENGTH = 8;
-    private static final int THERMAL_WIDTH = 9;
-    private static final int BODY_LENGTH = 10;
-    private static final int BODY_WIDTH = 11;
-
-    private static int wrong = 0;
-
-    private interface Call {
-        void run();
-    }
-
-    private interface Units {
-        int at(int i);
-    }
-
+public final class PromisesTest extends Checks {
     public static void main(String[] args) {
         promise1NewObject();
         promise2Unit();
@@ -57,24 +33,23 @@ public final class PromisesTest {
         promise15Text();
         promise16Clear();
         due("NONE", NONE, -1);
-        System.out.println(wrong == 0 ? "all promises hold" : wrong + " answers are wrong");
-        if (wrong != 0) {
-            System.exit(1);
-        }
+        end();
     }
 
     private static void promise1NewObject() {
+        said("Promise 1");
         FootprintRules x = new FootprintRules();
         dueNothingAtHand(x);
         dueThrow("make without families", IndexOutOfBoundsException.class, () -> x.make(0, 0));
         due("family without words", x.family(), -1);
-        due("first family", family(x, "chip"), 0);
+        due("first family", tellFamily(x, "chip"), 0);
         due("make without spans", x.make(0, 0), NONE);
         dueTrue("no ball left out", x.leave(1));
         dueTrue("no hand-made pad", x.hand(1, 0, 0, 1, 1));
     }
 
     private static void promise2Unit() {
+        said("Promise 2");
         FootprintRules x = new FootprintRules();
         int[] refused = {31, 127, 9, 11, 13, 0, -1, 128, 255, 65536 + 99,
             Integer.MAX_VALUE, Integer.MIN_VALUE};
@@ -99,27 +74,29 @@ public final class PromisesTest {
     }
 
     private static void promise3Kinds() {
+        said("Promise 3");
         String[] kinds = {"chip", "wing", "less", "ball", "hole"};
         FootprintRules x = new FootprintRules();
         for (int i = 0; i < kinds.length; i++) {
-            due(kinds[i], family(x, kinds[i]), i);
+            due(kinds[i], tellFamily(x, kinds[i]), i);
         }
-        due("breaks around words", family(x, "\n  chip \n\n mask   5 \n"), 5);
-        due("no kind", family(x, "Chip"), -1);
-        due("a longer word", family(x, "chips"), -1);
-        due("a shorter word", family(x, "chi"), -1);
-        due("two kinds", family(x, "chip wing"), -2);
-        due("only breaks", family(x, " \n "), -1);
+        due("breaks around words", tellFamily(x, "\n  chip \n\n mask   5 \n"), 5);
+        due("no kind", tellFamily(x, "Chip"), -1);
+        due("a longer word", tellFamily(x, "chips"), -1);
+        due("a shorter word", tellFamily(x, "chi"), -1);
+        due("two kinds", tellFamily(x, "chip wing"), -2);
+        due("only breaks", tellFamily(x, " \n "), -1);
     }
 
     private static void promise3Values() {
+        said("Promise 3");
         String[] right = {"toe 0 1 10000000", "heel 1 2 3 toe 4 5 6", "round 1", "round 10000000",
             "mask 0", "paste 00000000", "gap 00000012", "part 0", "part 10000", "part 10001",
             "via 0", "via 10000", "via 10000000", "name A", "name ZZZZ", "name NAME",
             "name COUR round 3 via 10002 part 99999 gap 1 paste 2 mask 3 court 1 2 3 side 4 5 6 "
                 + "heel 7 8 9 toe 1 2 3"};
         for (String words : right) {
-            due(words, family(new FootprintRules(), "less " + words), 0);
+            due(words, tellFamily(new FootprintRules(), "less " + words), 0);
         }
         FootprintRules x = chip("chip", 1000, 500, 100);
         due("what is not told", x.make(0, 2), 2);
@@ -133,6 +110,7 @@ public final class PromisesTest {
     }
 
     private static void promise3WrongWords() {
+        said("Promise 3");
         String[] words = {"bell", "wing toe", "wing toe 1 2", "wing toe 1 2 3 toe 1 2 3",
             "chip foot 1", "chip toe 1 x 3", "chip mask 10000001", "chip mask 000000001",
             "chip mask -1", "chip mask +1", "chip mask 1a", "chip mask 99999999", "chip round 0",
@@ -149,13 +127,13 @@ public final class PromisesTest {
             5, 3, 1};
         for (int i = 0; i < words.length; i++) {
             FootprintRules x = new FootprintRules();
-            due(words[i], family(x, words[i]), -1 - places[i]);
+            due(words[i], tellFamily(x, words[i]), -1 - places[i]);
             due("the words are gone", x.family(), -1);
-            due("there is no new one", family(x, "chip"), 0);
+            due("there is no new one", tellFamily(x, "chip"), 0);
         }
         FootprintRules x = chip("chip name A toe 9 9 9 mask 7 round 50", 1000, 500, 100);
-        due("wrong late", family(x, "chip toe 9 9 9 round 8 name Q mask x"), -11);
-        due("the next one", family(x, "chip"), 1);
+        due("wrong late", tellFamily(x, "chip toe 9 9 9 round 8 name Q mask x"), -11);
+        due("the next one", tellFamily(x, "chip"), 1);
         due("make", x.make(1, 0), 2);
         due("nothing of the wrong one stays", x.pad(0, 1), -500);
         due("nor its name", x.name(0), 'C');
@@ -164,9 +142,10 @@ public final class PromisesTest {
     }
 
     private static void promise3EightFamilies() {
+        said("Promise 3");
         FootprintRules x = new FootprintRules();
         for (int i = 0; i < 8; i++) {
-            due("family " + i, family(x, "wing"), i);
+            due("family " + i, tellFamily(x, "wing"), i);
         }
         tell(x, "hole");
         dueThrow("the ninth", IllegalStateException.class, () -> x.family());
@@ -175,6 +154,7 @@ public final class PromisesTest {
     }
 
     private static void promise4Span() {
+        said("Promise 4");
         FootprintRules x = chip("chip", 1000, 500, 100);
         for (int what = 0; what < 12; what++) {
             dueTrue("the widest", new FootprintRules().span(what, 0, 100000000));
@@ -201,6 +181,7 @@ public final class PromisesTest {
     }
 
     private static void promise5Arguments() {
+        said("Promise 5");
         FootprintRules x = chip("chip", 1000, 500, 100);
         due("make", x.make(0, 1), 2);
         int[] families = {-1, 1, 8, Integer.MAX_VALUE, Integer.MIN_VALUE};
@@ -219,6 +200,7 @@ public final class PromisesTest {
     }
 
     private static void promise5Chip() {
+        said("Promise 5");
         dueRefusedWithout("chip", OUTER, INNER, LEAD);
         dueMake("chip", 2, 0, 1000, 1, 500, 2, 100);
         dueMake("chip, X of 0", NONE, 0, 1000, 1, 500, 2, 0);
@@ -247,6 +229,7 @@ public final class PromisesTest {
     }
 
     private static void promise5Wing() {
+        said("Promise 5");
         dueRefusedWithout("wing", OUTER, INNER, LEAD, PITCH, COUNT);
         long[] counts = {0, 1, 2, 3, 4, 63, 64, 65, 66};
         for (long count : counts) {
@@ -264,6 +247,7 @@ public final class PromisesTest {
     }
 
     private static void promise5Less() {
+        said("Promise 5");
         dueRefusedWithout("less", OUTER, INNER, LEAD, PITCH, COUNT);
         long[] counts = {0, 2, 4, 6, 8, 62, 64, 68};
         for (long count : counts) {
@@ -278,6 +262,7 @@ public final class PromisesTest {
     }
 
     private static void promise5Thermal() {
+        said("Promise 5");
         dueMake("less", 13, 0, 1000, 1, 500, 2, 100, 3, 200, 4, 12, 8, 498, 9, 1);
         dueMake("less, length of G", NONE, 0, 1000, 1, 500, 2, 100, 3, 200, 4, 12, 8, 499, 9, 1);
         dueMake("less, width of G", NONE, 0, 1000, 1, 500, 2, 100, 3, 200, 4, 12, 8, 1, 9, 499);
@@ -289,6 +274,7 @@ public final class PromisesTest {
     }
 
     private static void promise5Ball() {
+        said("Promise 5");
         dueRefusedWithout("ball", PITCH, ROWS, COLUMNS, BALL);
         long[] lines = {0, 1, 8, 9};
         for (long line : lines) {
@@ -310,6 +296,7 @@ public final class PromisesTest {
     }
 
     private static void promise5Hole() {
+        said("Promise 5");
         dueRefusedWithout("hole", OUTER, LEAD, PITCH, COUNT);
         dueMake("hole", 8, 0, 1000, 2, 100, 3, 200, 4, 8);
         dueMake("hole, odd COUNT", NONE, 0, 1000, 2, 100, 3, 200, 4, 7);
@@ -329,6 +316,7 @@ public final class PromisesTest {
     }
 
     private static void promise5LargeValues() {
+        said("Promise 5");
         FootprintRules x = made("wing round 10000000 mask 10000000 court 0 0 10000000",
                 0, 100000000, 1, 20000000, 2, 79999999, 3, 100000000, 4, 64);
         due("the longest row", x.make(0, 2), 64);
@@ -340,6 +328,7 @@ public final class PromisesTest {
     }
 
     private static void promise6Pad() {
+        said("Promise 6");
         FootprintRules x = made("wing round 5 toe 10 20 30 heel 1 2 3 side 4 5 6",
                 0, 1000, 1, 500, 2, 100, 3, 200, 4, 6);
         due("make", x.make(0, 1), 6);
@@ -367,6 +356,7 @@ public final class PromisesTest {
     }
 
     private static void promise6PadsOfLess() {
+        said("Promise 6");
         FootprintRules x = made("less", 0, 1000, 1, 500, 2, 100, 3, 200, 4, 8, 8, 301, 9, 200);
         due("make", x.make(0, 0), 9);
         duePad(x, 0, 1, -500, 50, 250, 100, 0, 0);
@@ -386,6 +376,7 @@ public final class PromisesTest {
     }
 
     private static void promise6PadsOfBall() {
+        said("Promise 6");
         FootprintRules x = made("ball side 1 2 3 round 5", 3, 200, 5, 2, 6, 3, 7, 101);
         due("make", x.make(0, 2), 6);
         duePad(x, 0, 1, -255, 45, 110, 110, 1, 0);
@@ -400,6 +391,7 @@ public final class PromisesTest {
     }
 
     private static void promise6PadsOfHole() {
+        said("Promise 6");
         FootprintRules x = made("hole heel 5 6 7 side 11 12 13 round 10",
                 0, 1000, 2, 100, 3, 202, 4, 4);
         due("make", x.make(0, 1), 4);
@@ -415,6 +407,7 @@ public final class PromisesTest {
     }
 
     private static void promise7Name() {
+        said("Promise 7");
         FootprintRules x = chip("chip name RES", 1234999, 500, 100);
         x.make(0, 0);
         dueUnits("density 0", "RES2X1234L", x::name);
@@ -446,6 +439,7 @@ public final class PromisesTest {
     }
 
     private static void promise8Court() {
+        said("Promise 8");
         FootprintRules x = chip("chip court 100 20 3 round 7", 1000, 500, 100);
         x.make(0, 1);
         // Z = UP (1000, 14) = 1008, X = UP (100, 14) = 112.
@@ -477,6 +471,7 @@ public final class PromisesTest {
     }
 
     private static void promise9Mask() {
+        said("Promise 9");
         FootprintRules x = chip("chip mask 13", 1000, 500, 100);
         x.make(0, 0);
         long[] due = {237, -63, 276, 126};
@@ -498,6 +493,7 @@ public final class PromisesTest {
     }
 
     private static void promise10PasteWhole() {
+        said("Promise 10");
         FootprintRules x = chip("chip paste 10", 1000, 500, 100);
         x.make(0, 0);
         due("parts", x.paste(1, NONE), 1);
@@ -518,6 +514,7 @@ public final class PromisesTest {
     }
 
     private static void promise10PasteParts() {
+        said("Promise 10");
         // A pad of 100,000 by 20,002 at -150,000, -10,001.
         FootprintRules x = chip("chip part 30000 gap 2001 paste 1", 300000, 100000, 20002);
         x.make(0, 0);
@@ -565,6 +562,7 @@ public final class PromisesTest {
     }
 
     private static void promise10PasteNone() {
+        said("Promise 10");
         FootprintRules x = chip("chip paste 50", 1000, 500, 100);
         x.make(0, 0);
         due("nothing is left upwards", x.paste(0, NONE), 0);
@@ -589,6 +587,7 @@ public final class PromisesTest {
     }
 
     private static void promise11Leave() {
+        said("Promise 11");
         FootprintRules x = made("ball", 3, 200, 5, 2, 6, 2, 7, 100);
         x.make(0, 0);
         dueTrue("left out", x.leave(2));
@@ -615,6 +614,7 @@ public final class PromisesTest {
     }
 
     private static void promise12Via() {
+        said("Promise 12");
         FootprintRules x = made("less via 10000", 0, 200000, 1, 150000, 2, 1000, 3, 2000, 4, 4,
                 8, 39998, 9, 20000);
         x.make(0, 0);
@@ -637,12 +637,12 @@ public final class PromisesTest {
         x.span(THERMAL_WIDTH, 0, 9998);
         x.make(0, 0);
         due("too low a pad", x.via(NONE, 0), 0);
-        family(x, "less");
+        tellFamily(x, "less");
         x.span(THERMAL_WIDTH, 0, 20000);
         x.make(1, 0);
         due("via of 0", x.via(NONE, 0), 0);
         dueThrow("no via", IndexOutOfBoundsException.class, () -> x.via(0, 0));
-        family(x, "wing via 10000");
+        tellFamily(x, "wing via 10000");
         due("wing", x.make(2, 0), 4);
         due("no THERMAL pad", x.via(NONE, 0), 0);
         dueNoThermalAfterOne();
@@ -660,6 +660,7 @@ public final class PromisesTest {
     }
 
     private static void promise13Check() {
+        said("Promise 13");
         FootprintRules x = chip("chip", 1000, 500, 100);
         x.make(0, 0);
         due("no hand-made ones", x.check(), 2);
@@ -690,6 +691,7 @@ public final class PromisesTest {
     }
 
     private static void promise14Hand() {
+        said("Promise 14");
         FootprintRules x = new FootprintRules();
         dueTrue("new", x.hand(1, -100000000, 100000000, 1, 100000000));
         dueTrue("new", x.hand(80, 100000000, -100000000, 100000000, 1));
@@ -721,6 +723,7 @@ public final class PromisesTest {
     }
 
     private static void promise15Text() {
+        said("Promise 15");
         FootprintRules x = chip("chip court 10 20 30 name AB", 2001, 500, 100);
         x.make(0, 0);
         dueUnits("chip", "AB2X2L\n1 -1001 -50 751 100 0 0\n2 250 -50 751 100 0 0\n"
@@ -739,25 +742,10 @@ public final class PromisesTest {
         z.leave(1);
         z.make(0, 0);
         dueUnits("ball", "BALL1X0L\n2 50 -50 100 100 1 0\ncourt 50 -50 150 50\n", z::text);
-        dueLongestText();
-    }
-
-    private static void dueLongestText() {
-        FootprintRules x = made("wing round 10000000", 0, 100000000, 1, 20000000,
-                2, 79999999, 3, 100000000, 4, 64);
-        x.make(0, 0);
-        StringBuilder due = new StringBuilder("WING64X100000L\n");
-        for (int k = 0; k < 64; k++) {
-            for (int what = 0; what < 7; what++) {
-                due.append(what > 0 ? " " : "").append(x.pad(k, what));
-            }
-            due.append('\n');
-        }
-        due.append("court -50000000 -1590000000 50000000 1590000000\n");
-        dueUnits("the longest row", due.toString(), x::text);
     }
 
     private static void promise16Clear() {
+        said("Promise 16");
         FootprintRules x = made("ball", 3, 200, 5, 2, 6, 2, 7, 100);
         x.leave(1);
         x.hand(5, 0, 0, 1, 1);
@@ -778,23 +766,12 @@ public final class PromisesTest {
 
     // What the methods above use.
 
-    private static void dueNothingAtHand(FootprintRules x) {
-        dueThrow("pad", IllegalStateException.class, () -> x.pad(-1, -1));
-        dueThrow("name", IllegalStateException.class, () -> x.name(-1));
-        dueThrow("court", IllegalStateException.class, () -> x.court(-1));
-        dueThrow("mask", IllegalStateException.class, () -> x.mask(-1, -1));
-        dueThrow("paste", IllegalStateException.class, () -> x.paste(-1, -1));
-        dueThrow("via", IllegalStateException.class, () -> x.via(NONE, 0));
-        dueThrow("check", IllegalStateException.class, () -> x.check());
-        dueThrow("text", IllegalStateException.class, () -> x.text(-1));
-    }
-
     /** Tells all spans that a kind may need, but one of those that are named, in turn. */
     private static void dueRefusedWithout(String kind, int... needed) {
         long[] all = {2000, 1000, 100, 200, 8, 2, 2, 100};
         for (int without = 0; without < all.length; without++) {
             FootprintRules x = new FootprintRules();
-            family(x, kind);
+            tellFamily(x, kind);
             for (int what = 0; what < all.length; what++) {
                 if (what != without) {
                     x.span(what, all[what], all[what]);
@@ -816,7 +793,7 @@ public final class PromisesTest {
         long[] highs = {2000, 1002, 100, 200, 8, 2, 2, 100};
         for (int i = -1; i < exact.length; i++) {
             FootprintRules x = new FootprintRules();
-            family(x, kind);
+            tellFamily(x, kind);
             for (int what = 0; what < highs.length; what++) {
                 x.span(what, lows[what], highs[what]);
             }
@@ -842,86 +819,7 @@ public final class PromisesTest {
         return x.make(0, 0);
     }
 
-    private static void duePad(FootprintRules x, int k, long... due) {
-        for (int what = 0; what < 7; what++) {
-            due("pad " + k + ", " + what, x.pad(k, what), due[what]);
-        }
-    }
-
-    private static void dueCourt(FootprintRules x, long... due) {
-        for (int side = 0; side < 4; side++) {
-            due("court " + side, x.court(side), due[side]);
-        }
-    }
-
-    private static void duePart(FootprintRules x, int k, int part, long... due) {
-        for (int i = 0; i < 4; i++) {
-            due("paste of pad " + k + ", part " + part + ", " + i, x.paste(k, 4 * part + i),
-                    due[i]);
-        }
-    }
-
-    private static void dueUnits(String what, String due, Units units) {
-        for (int i = 0; i < due.length(); i++) {
-            due(what + ", character " + i, units.at(i), due.charAt(i));
-        }
-        due(what + ", behind the last one", units.at(due.length()), NONE);
-    }
-
     private static FootprintRules chip(String words, long outer, long inner, long lead) {
         return made(words, OUTER, outer, INNER, inner, LEAD, lead);
-    }
-
-    /** A new object with a family and EXACT spans, each told by its number and its ends. */
-    private static FootprintRules made(String words, long... told) {
-        FootprintRules x = new FootprintRules();
-        due(words, family(x, words), 0);
-        tellSpans(x, told);
-        return x;
-    }
-
-    private static void tellSpans(FootprintRules x, long[] told) {
-        for (int i = 0; i < told.length; i += 2) {
-            dueTrue("span " + told[i], x.span((int) told[i], told[i + 1], told[i + 1]));
-        }
-    }
-
-    private static int family(FootprintRules x, String words) {
-        tell(x, words);
-        return x.family();
-    }
-
-    private static void tell(FootprintRules x, String words) {
-        for (int i = 0; i < words.length(); i++) {
-            dueTrue("unit " + words.charAt(i), x.unit(words.charAt(i)));
-        }
-    }
-
-    private static void dueThrow(String what, Class<? extends RuntimeException> due, Call call) {
-        String got = "nothing";
-        try {
-            call.run();
-        } catch (RuntimeException e) {
-            got = e.getClass().getName();
-        }
-        if (!got.equals(due.getName())) {
-            wrong++;
-            System.out.println(what + ": threw " + got + ", due is " + due.getName());
-        }
-    }
-
-    private static void dueTrue(String what, boolean got) {
-        due(what, got ? 1 : 0, 1);
-    }
-
-    private static void dueFalse(String what, boolean got) {
-        due(what, got ? 1 : 0, 0);
-    }
-
-    private static void due(String what, long got, long due) {
-        if (got != due) {
-            wrong++;
-            System.out.println(what + ": answered " + got + ", due is " + due);
-        }
     }
 }
