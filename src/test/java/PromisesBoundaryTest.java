@@ -12,6 +12,7 @@ public final class PromisesBoundaryTest extends Checks {
         promise4();
         promise5();
         promise5Refused();
+        promise5OneAfterAnother();
         promise6();
         promise7();
         promise8();
@@ -125,6 +126,20 @@ public final class PromisesBoundaryTest extends Checks {
         dueThrow("there is no new one", IndexOutOfBoundsException.class, () -> z.make(0, 0));
         due("what was lacking comes too late", tellFamily(z, "2 3"), -1);
         due("the first one", tellFamily(z, "chip"), 0);
+
+        said("What is not told is 0, round 1, name the kind's letters as capitals.");
+        FootprintRules w = made("chip", CHIP);
+        due("wrong at its end", tellFamily(w, "wing toe 9 9 9 heel 9 9 9 side 9 9 9 court 9 9 9 "
+                + "round 9 mask 9 paste 9 gap 9 part 10000 via 10000 name Q foot"), -32);
+        due("the next one", tellFamily(w, "chip"), 1);
+        for (int density = 0; density < 3; density++) {
+            due("it is a chip", w.make(1, density), 2);
+            duePad(w, 1, 2, 250, -50, 250, 100, 0, 0);
+            dueCourt(w, -500, -50, 500, 50);
+        }
+        dueMask(w, 1, 250, -50, 250, 100);
+        duePart(w, 1, 0, 250, -50, 250, 100);
+        dueUnits("its name", "CHIP2X1M", w::name);
     }
 
     private static void promise3Families() {
@@ -245,6 +260,60 @@ public final class PromisesBoundaryTest extends Checks {
             due("refused", y.make(0, 0), NONE);
             dueNothingAtHand(y);
         }
+    }
+
+    /** Nothing of the footprint before is left in the one at hand, or in what was asked first. */
+    private static void promise5OneAfterAnother() {
+        said("Makes a footprint of a family and density");
+        for (int before = 0; before < KINDS.length; before++) {
+            for (int at = 0; at < KINDS.length; at++) {
+                FootprintRules x = ofAllKinds();
+                x.make(before, 0);
+                String first = lookedAt(x);
+                x.make(at, 1);
+                String got = lookedAt(x);
+                FootprintRules y = ofAllKinds();
+                y.make(at, 1);
+                dueSame(KINDS[at] + " behind " + KINDS[before], got, lookedAt(y));
+                dueFalse("they are the same", got.equals(first));
+            }
+        }
+    }
+
+    private static FootprintRules ofAllKinds() {
+        FootprintRules x = new FootprintRules();
+        for (String kind : KINDS) {
+            tellFamily(x, kind + (kind.equals("less") ? " part 10000" : " mask 3") + " via 10000");
+        }
+        tellSpans(x, new long[] {OUTER, 160000, INNER, 150000, LEAD, 1000, PITCH, 2000, COUNT, 8,
+            ROWS, 2, COLUMNS, 2, BALL, 1000, THERMAL_LENGTH, 30002, THERMAL_WIDTH, 30004});
+        return x;
+    }
+
+    /** From the last pad to the first, so that what the last one leaves would show. */
+    private static String lookedAt(FootprintRules x) {
+        StringBuilder s = new StringBuilder();
+        for (int i = 0; i < 12; i++) {
+            s.append((char) x.name(i));
+        }
+        int pads = x.check();
+        int[] some = {pads - 1, 0};
+        for (int k : some) {
+            for (int what = 0; what < 7; what++) {
+                s.append(x.pad(k, what)).append(' ');
+            }
+            int parts = x.paste(k, NONE);
+            s.append(parts).append(' ');
+            for (int what = 0; what < 8 && what < 4 * parts; what++) {
+                s.append(x.paste(k, what)).append(' ');
+            }
+            s.append(x.mask(k, 0)).append(' ');
+        }
+        s.append(x.court(0)).append(' ').append(x.court(3)).append(' ').append(x.via(NONE, 0));
+        for (int i = 8; i < 60; i++) {
+            s.append((char) x.text(i));
+        }
+        return s.toString();
     }
 
     private static void promise6() {

@@ -8,6 +8,7 @@ public final class TermsBoundaryTest extends Checks {
         words();
         kinds();
         keysInAnyOrder();
+        eachKeyCounts();
         numbers();
         valuesOfDensities();
         leastValues();
@@ -16,6 +17,7 @@ public final class TermsBoundaryTest extends Checks {
         ends();
         upAndDown();
         rows();
+        roundPads();
         thermalPad();
         toldSpans();
         exactSpans();
@@ -74,6 +76,9 @@ public final class TermsBoundaryTest extends Checks {
             dueFamily(kind.substring(0, 3), -1);
             dueFamily(kind + "s", -1);
             dueFamily(kind.toUpperCase(), -1);
+            for (int i = 0; i < kind.length(); i++) {
+                dueFamily(withOtherUnit(kind, i), -1);
+            }
             dueFamily(kind + " " + kind, -2);
             dueFamily("mask 5 " + kind, -1);
         }
@@ -102,11 +107,45 @@ public final class TermsBoundaryTest extends Checks {
             String between = one.startsWith("gap") ? "mask 5" : "gap 5";
             dueFamily("less " + one + " " + between + " " + one, -4 - size);
         }
+        for (String one : told) {
+            for (int i = 0; i < one.indexOf(' '); i++) {
+                dueFamily("less " + withOtherUnit(one, i), -2);
+            }
+        }
         dueFamily("less foot 1", -2);
         dueFamily("less TOE 1 2 3", -2);
         dueFamily("less to 1 2 3", -2);
         dueFamily("less toes 1 2 3", -2);
         dueFamily("less 5", -2);
+    }
+
+    private static String withOtherUnit(String word, int i) {
+        return word.substring(0, i) + "q" + word.substring(i + 1);
+    }
+
+    private static void eachKeyCounts() {
+        said("in any order");
+        String[] told = {"toe 1 2 3", "heel 4 5 6", "side 7 8 9", "court 10 20 30", "round 2",
+            "mask 11", "paste 13", "gap 17", "part 10000", "via 20000", "name AB"};
+        for (int first = 0; first < told.length; first++) {
+            String words = "less";
+            for (int i = 0; i < told.length; i++) {
+                words += " " + told[(first + i) % told.length];
+            }
+            FootprintRules x = made(words, OUTER, 200000, INNER, 150000, LEAD, 1000, PITCH, 2000,
+                    COUNT, 4, THERMAL_LENGTH, 40000, THERMAL_WIDTH, 40000);
+            due("make", x.make(0, 1), 5);
+            // Z = 200,004, G = DOWN (149,990, 4) = 149,988, X = 1,016.
+            duePad(x, 0, 1, -100002, -508, 25008, 1016, 0, 0);
+            dueCourt(x, -100022, -100022, 100022, 100022);
+            dueMask(x, 0, -100013, -519, 25030, 1038);
+            // 25,008 - 26 in three of 8,316, with two gaps.
+            duePasteCount(x, 0, 3);
+            duePart(x, 0, 2, -83323, -495, 8316, 990);
+            due("vias", x.via(NONE, 0), 4);
+            due("the first one", x.via(0, 0), -10000);
+            dueUnits("name", "AB5X200N", x::name);
+        }
     }
 
     private static void numbers() {
@@ -336,6 +375,16 @@ public final class TermsBoundaryTest extends Checks {
         duePad(less, 1, 2, -50, -1000, 100, 500, 0, 0);
         duePad(less, 2, 3, 500, -50, 500, 100, 0, 0);
         duePad(less, 3, 4, -50, 500, 100, 500, 0, 0);
+        FootprintRules pairs = made("less", LESS);
+        pairs.make(0, 0);
+        duePad(pairs, 0, 1, -1000, 50, 500, 100, 0, 0);
+        duePad(pairs, 1, 2, -1000, -150, 500, 100, 0, 0);
+        duePad(pairs, 2, 3, -150, -1000, 100, 500, 0, 0);
+        duePad(pairs, 3, 4, 50, -1000, 100, 500, 0, 0);
+        duePad(pairs, 4, 5, 500, -150, 500, 100, 0, 0);
+        duePad(pairs, 5, 6, 500, 50, 500, 100, 0, 0);
+        duePad(pairs, 6, 7, 50, 500, 100, 500, 0, 0);
+        duePad(pairs, 7, 8, -150, 500, 100, 500, 0, 0);
         FootprintRules grid = made("ball", with(GRID, ROWS, 1, COLUMNS, 1));
         grid.make(0, 0);
         duePad(grid, 0, 1, -50, -50, 100, 100, 1, 0);
@@ -345,6 +394,38 @@ public final class TermsBoundaryTest extends Checks {
         duePad(full, 7, 8, 650, 650, 100, 100, 1, 0);
         duePad(full, 8, 9, -750, 450, 100, 100, 1, 0);
         duePad(full, 63, 64, 650, -750, 100, 100, 1, 0);
+    }
+
+    private static void roundPads() {
+        said("round ones of D, UP (BALL's high end + 2 s, 2 n), wide");
+        long[][] balls = {{90, 90}, {91, 100}, {100, 100}, {101, 110}};
+        for (long[] v : balls) {
+            FootprintRules x = made("ball round 5", with(GRID, ROWS, 1, COLUMNS, 1));
+            x.span(BALL, 11, v[0]);
+            x.make(0, 0);
+            duePad(x, 0, 1, -v[1] / 2, -v[1] / 2, v[1], v[1], 1, 0);
+        }
+        FootprintRules more = made("ball side 0 5 6 round 5", with(GRID, ROWS, 1, COLUMNS, 1));
+        more.make(0, 1);
+        duePad(more, 0, 1, -55, -55, 110, 110, 1, 0);
+        more.make(0, 2);
+        duePad(more, 0, 1, -60, -60, 120, 120, 1, 0);
+
+        said("the middles OUTER apart, d + 2 UP (s, n) wide, with a hole of d, UP (LEAD's high end "
+                + "+ 2 h, 2 n)");
+        for (long[] v : balls) {
+            FootprintRules x = made("hole round 5", with(HOLE, COUNT, 2));
+            x.span(LEAD, 11, v[0]);
+            x.make(0, 0);
+            duePad(x, 1, 2, 500 - v[1] / 2, -v[1] / 2, v[1], v[1], 1, v[1]);
+        }
+        FootprintRules wide = made("hole heel 0 5 6 side 1 5 6 round 5", with(HOLE, COUNT, 2));
+        wide.make(0, 0);
+        duePad(wide, 0, 1, -555, -55, 110, 110, 1, 100);
+        wide.make(0, 1);
+        duePad(wide, 0, 1, -560, -60, 120, 120, 1, 110);
+        wide.make(0, 2);
+        duePad(wide, 0, 1, -570, -70, 140, 140, 1, 120);
     }
 
     private static void thermalPad() {
@@ -397,21 +478,27 @@ public final class TermsBoundaryTest extends Checks {
         said("Spans must be told: chip OUTER, INNER, LEAD; wing and less also PITCH, COUNT; ball "
                 + "PITCH, ROWS, COLUMNS, BALL; hole OUTER, LEAD, PITCH, COUNT.");
         for (String kind : KINDS) {
-            long[] spans = spansOf(kind);
-            FootprintRules all = made(kind, spans);
-            dueTrue(kind + " with all", all.make(0, 0) > 0);
-            for (int i = 0; i < spans.length; i += 2) {
-                FootprintRules x = new FootprintRules();
-                tellFamily(x, kind);
-                for (int j = 0; j < spans.length; j += 2) {
-                    if (j != i) {
-                        x.span((int) spans[j], spans[j + 1], spans[j + 1]);
-                    }
+            dueAllTold(kind);
+            // With these, what is not told could be taken for 0 and still make pads.
+            dueAllTold(kind + " toe 1000 1000 1000 heel 5 5 5 side 10 10 10");
+        }
+    }
+
+    private static void dueAllTold(String words) {
+        String kind = words.substring(0, 4);
+        long[] spans = spansOf(kind);
+        dueMade(words, spans);
+        for (int i = 0; i < spans.length; i += 2) {
+            FootprintRules x = new FootprintRules();
+            tellFamily(x, words);
+            for (int j = 0; j < spans.length; j += 2) {
+                if (j != i) {
+                    x.span((int) spans[j], spans[j + 1], spans[j + 1]);
                 }
-                due(kind + " without " + spans[i], x.make(0, 0), NONE);
-                x.span((int) spans[i], spans[i + 1], spans[i + 1]);
-                dueTrue(kind + " with " + spans[i], x.make(0, 0) > 0);
             }
+            due(words + " without " + spans[i], x.make(0, 0), NONE);
+            x.span((int) spans[i], spans[i + 1], spans[i + 1]);
+            dueTrue(words + " with " + spans[i], x.make(0, 0) > 0);
         }
     }
 
@@ -545,6 +632,8 @@ public final class TermsBoundaryTest extends Checks {
         dueMade("ball", with(GRID, BALL, 198));
         dueRefused("ball", with(GRID, BALL, 199));
         dueRefused("ball", with(GRID, BALL, 200));
+        dueRefused("ball", with(GRID, BALL, 202));
+        dueRefused("ball", with(GRID, BALL, 5000));
         dueRefused("ball", with(GRID, ROWS, 1, COLUMNS, 1, BALL, 200));
         dueMade("ball side 49 0 0", GRID);
         dueRefused("ball side 50 0 0", GRID);
@@ -656,6 +745,15 @@ public final class TermsBoundaryTest extends Checks {
         x.span(BODY_WIDTH, 7000, 8000);
         x.make(0, 0);
         dueCourt(x, -3000, -4000, 3000, 4000);
+
+        dueCourtOf("less", LESS, -1000, -1000, 1000, 1000);
+        dueCourtOf("wing", WING, -500, -350, 500, 350);
+        // Neither the first pad nor the last one lies farthest to the left, or to the right.
+        FootprintRules grid = made("ball", GRID);
+        grid.leave(1);
+        grid.leave(6);
+        grid.make(0, 0);
+        dueCourt(grid, -250, -150, 250, 150);
 
         said("by the family's court of the density farther on each side");
         dueCourtOf("chip court 0 1 1", CHIP, -500, -50, 500, 50);
@@ -846,6 +944,16 @@ public final class TermsBoundaryTest extends Checks {
             due("x of " + k, x.via(k, 0), middles[k][0]);
             due("y of " + k, x.via(k, 1), middles[k][1]);
         }
+        FootprintRules column = made("less via 10000", with(base, THERMAL_LENGTH, 10000,
+                THERMAL_WIDTH, 20000));
+        column.make(0, 0);
+        due("x in one column", column.via(1, 0), 0);
+        due("y in one column", column.via(1, 1), 5000);
+        FootprintRules row = made("less via 10000", with(base, THERMAL_LENGTH, 20000,
+                THERMAL_WIDTH, 10000));
+        row.make(0, 0);
+        due("x in one row", row.via(1, 0), 5000);
+        due("y in one row", row.via(1, 1), 0);
         FootprintRules one = made("less via 20000", square);
         one.make(0, 0);
         due("x of one", one.via(0, 0), 0);
@@ -896,6 +1004,9 @@ public final class TermsBoundaryTest extends Checks {
         zero.leave(2);
         zero.make(0, 0);
         dueUnits("a side of 0", "BALL1X0L\n1 -3 2 6 6 1 0\ncourt -3 0 3 8\n", zero::text);
+        FootprintRules least = made("ball", with(GRID, ROWS, 1, COLUMNS, 1, BALL, 1));
+        least.make(0, 0);
+        dueUnits("sides of -1 and 1", "BALL1X0L\n1 -1 -1 2 2 1 0\ncourt -1 -1 1 1\n", least::text);
         String[] kinds = {"wing", "less"};
         for (String kind : kinds) {
             dueLongText(kind);
