@@ -8,11 +8,25 @@ import java.util.TreeSet;
 
 /** The face of the document and no other, and how much one object holds. */
 public final class FaceTest {
+    private static final String STATE = "IllegalStateException";
+    private static final String INDEX = "IndexOutOfBoundsException";
+    private static final String ARGUMENT = "IllegalArgumentException";
     private static final String[] FACE = {
-        "boolean unit(int)", "int family()", "boolean span(int,long,long)", "int make(int,int)",
-        "long pad(int,int)", "int name(int)", "long court(int)", "int mask(int,int)",
-        "int paste(int,int)", "boolean leave(int)", "int via(int,int)", "int check()",
-        "boolean hand(int,long,long,long,long)", "int text(int)", "void clear()"};
+        "boolean unit(int)",
+        "int family() throws " + STATE,
+        "boolean span(int,long,long) throws " + INDEX + "," + ARGUMENT,
+        "int make(int,int) throws " + INDEX + "," + ARGUMENT,
+        "long pad(int,int) throws " + STATE + "," + INDEX,
+        "int name(int) throws " + STATE + "," + INDEX,
+        "long court(int) throws " + STATE + "," + INDEX,
+        "int mask(int,int) throws " + STATE + "," + INDEX,
+        "int paste(int,int) throws " + STATE + "," + INDEX,
+        "boolean leave(int) throws " + ARGUMENT,
+        "int via(int,int) throws " + STATE + "," + INDEX,
+        "int check() throws " + STATE,
+        "boolean hand(int,long,long,long,long) throws " + INDEX + "," + ARGUMENT,
+        "int text(int) throws " + STATE + "," + INDEX,
+        "void clear()"};
     // A run's room is 7.3 million; even a thousand objects in one run leave some of it.
     private static final int MOST_CELLS = 7000;
 
@@ -33,6 +47,7 @@ public final class FaceTest {
     private static void dueClass() {
         int modifiers = FootprintRules.class.getModifiers();
         due("public and final", Modifier.isPublic(modifiers) && Modifier.isFinal(modifiers));
+        due("in no package", FootprintRules.class.getPackageName().isEmpty());
         Constructor<?>[] constructors = FootprintRules.class.getDeclaredConstructors();
         due("one constructor", constructors.length == 1
                 && Modifier.isPublic(constructors[0].getModifiers())
@@ -74,10 +89,20 @@ public final class FaceTest {
             s.append(between).append(type);
             between = ",";
         }
-        return s.append(')').toString();
+        s.append(')');
+        between = " throws ";
+        for (Class<?> type : method.getExceptionTypes()) {
+            s.append(between).append(type.getSimpleName());
+            between = ",";
+        }
+        return s.toString();
     }
 
-    private static void dueFields() {
+    private static void dueFields() throws Exception {
+        Field none = FootprintRules.class.getField("NONE");
+        due("NONE is a constant int", none.getType() == int.class
+                && Modifier.isStatic(none.getModifiers()) && Modifier.isFinal(none.getModifiers()));
+        due("NONE is -1", none.getInt(null) == -1);
         for (Field field : FootprintRules.class.getDeclaredFields()) {
             boolean isNone = field.getName().equals("NONE");
             due(field + " is private", isNone == !Modifier.isPrivate(field.getModifiers()));
