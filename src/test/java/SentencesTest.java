@@ -31,6 +31,10 @@ public final class SentencesTest {
         "and nothing about an object after its 512th call."};
 
     public static void main(String[] args) throws IOException {
+        if (!Files.exists(DOCUMENT)) {
+            System.out.println("nothing is compared: there is no " + DOCUMENT);
+            return;
+        }
         String document = plain(Files.readString(DOCUMENT));
         boolean[] isQuoted = new boolean[document.length()];
         List<String> quotes = quotes();
